@@ -62,6 +62,7 @@ public final class MailRouter {
     private final Sum sum;
     private final Atlas atlas;
     private final Reader reader;
+    private final Steps stepRules;
     private final Ways ways;
     private final Printer printer;
 
@@ -75,11 +76,12 @@ public final class MailRouter {
         statementCounts = new int[FILES];
         lastFault = new Fault();
         tokens = new Tokens();
-        sum = new Sum(tokens, lastFault);
+        sum = new Sum(tokens);
         atlas = new Atlas();
         reader = new Reader(tokens, sum, atlas, lastFault);
-        ways = new Ways(atlas);
-        printer = new Printer(atlas, ways, out);
+        stepRules = new Steps(atlas);
+        ways = new Ways(atlas, stepRules);
+        printer = new Printer(atlas, stepRules, ways, out);
     }
 
     // ---- the tape and the files
@@ -130,11 +132,12 @@ public final class MailRouter {
         lastFault.clear();
         tokens.scan(tape);
         tape.clear();
-        boolean sound = sum.workOut(0);
-        if (sound && tokens.sortAt(sum.next()) != END) {
-            sound = lastFault.tell(MISPLACED, tokens.beginAt(sum.next()));
+        if (!sum.workOut(0)) {
+            lastFault.tell(sum.faultCode(), tokens.beginAt(sum.faultToken()));
+        } else if (tokens.sortAt(sum.next()) != END) {
+            lastFault.tell(MISPLACED, tokens.beginAt(sum.next()));
         }
-        if (!sound) {
+        if (lastFault.code() != 0) {
             throw new IllegalStateException("the sum has a fault");
         }
         return sum.result();
@@ -213,6 +216,7 @@ public final class MailRouter {
         if (!atlas.has(node)) {
             throw new IndexOutOfBoundsException("there is no such node");
         }
+        ways.find();
         return ways.costOfKey(ways.routeKey(node));
     }
 
@@ -220,6 +224,8 @@ public final class MailRouter {
         if (!atlas.has(node)) {
             throw new IndexOutOfBoundsException("there is no such node");
         }
+        ways.find();
+        ways.findByRounds();
         return ways.leastByRounds(node);
     }
 
@@ -227,13 +233,15 @@ public final class MailRouter {
         if (!atlas.has(node)) {
             throw new IndexOutOfBoundsException("there is no such node");
         }
-        return ways.stepsOfKey(ways.routeKey(node));
+        ways.find();
+        return ways.lengthOfKey(ways.routeKey(node));
     }
 
     public int state(int node) throws IndexOutOfBoundsException {
         if (!atlas.has(node)) {
             throw new IndexOutOfBoundsException("there is no such node");
         }
+        ways.find();
         int key = ways.routeKey(node);
         return key == NONE ? NONE : key % STATES;
     }
@@ -256,14 +264,15 @@ public final class MailRouter {
         if (!hasPlace(node, place)) {
             throw new IndexOutOfBoundsException("there is no such node or place");
         }
-        return ways.stepOfKey(ways.keyOn(place));
+        return ways.kindOfKey(ways.keyOn(place));
     }
 
     public boolean isBack(int from, int to) throws IndexOutOfBoundsException {
         if (!atlas.has(from) || !atlas.has(to)) {
             throw new IndexOutOfBoundsException("there is no such node");
         }
-        return ways.hasLinkBack(from, to);
+        ways.find();
+        return stepRules.hasBack(from, to);
     }
 
     // ---- the out
@@ -272,11 +281,13 @@ public final class MailRouter {
         if (!atlas.has(node)) {
             throw new IndexOutOfBoundsException("there is no such node");
         }
+        ways.find();
         printer.writeRouteOf(node);
         return out.length();
     }
 
     public int rewrite() {
+        ways.find();
         printer.writeAddress(tape);
         tape.clear();
         return out.length();
@@ -304,6 +315,7 @@ public final class MailRouter {
 
     /** Whether the route of the node has such a place; the route is laid out then. */
     private boolean hasPlace(int node, int place) {
+        ways.find();
         return atlas.has(node) && place >= 0 && place <= ways.layOut(node);
     }
 
@@ -327,7 +339,7 @@ public final class MailRouter {
     }
 
     private static boolean holds(int set, int node) {
-        return (set & setOf(node)) != 0;
+        return node >= 0 && node < NODES && (set >> node & 1) != 0;
     }
 
     private static boolean isNameStart(int b) {
@@ -438,20 +450,38 @@ public final class MailRouter {
             appendPart(other, 0, other.length);
         }
 
+        /** Its first eight bytes from begin up to end, the first one lowest. */
+        long packed(int begin, int end) {
+            long packed = 0;
+            for (int i = 0; i < NAME_BYTES && begin + i < end; i++) {
+                packed |= (byteAt(begin + i) & 255L) << (8 * i);
+            }
+            return packed;
+        }
+
+        boolean spells(int begin, int end, String letters) {
+            if (end - begin != letters.length()) {
+                return false;
+            }
+            for (int i = 0; i < letters.length(); i++) {
+                if (byteAt(begin + i) != letters.charAt(i)) {
+                    return false;
+                }
+            }
+            return true;
+        }
+
         /** The packed name that the text is; 0 if it is not just a name of at most eight bytes. */
         long asName() {
             if (length > NAME_BYTES || !isNameStart(byteAt(0))) {
                 return 0;
             }
-            long packed = 0;
-            for (int i = 0; i < length; i++) {
-                int b = byteAt(i);
-                if (!isNamePart(b)) {
+            for (int i = 1; i < length; i++) {
+                if (!isNamePart(byteAt(i))) {
                     return 0;
                 }
-                packed |= (long) b << (8 * i);
             }
-            return packed;
+            return packed(0, length);
         }
     }
 
@@ -461,6 +491,8 @@ public final class MailRouter {
         private final int[] sorts = new int[TAPE_BYTES + 1];
         private final int[] begins = new int[TAPE_BYTES + 1];
         private final int[] ends = new int[TAPE_BYTES + 1];
+        // For a NAME its first eight bytes, packed; for a NUMBER or WORD what it counts.
+        private final long[] meanings = new long[TAPE_BYTES + 1];
         private int count;
 
         void scan(Text source) {
@@ -476,11 +508,11 @@ public final class MailRouter {
                 } else {
                     int sort = sortOf(first);
                     int end = endOfToken(sort, at);
-                    add(sort, at, end);
+                    add(sort, at, end, meaningOf(sort, at, end));
                     at = end;
                 }
             }
-            add(END, text.length(), text.length());
+            add(END, text.length(), text.length(), 0);
         }
 
         int sortAt(int i) {
@@ -491,67 +523,61 @@ public final class MailRouter {
             return i >= 0 && i < count && i < begins.length ? begins[i] : text.length();
         }
 
-        int endAt(int i) {
-            return i >= 0 && i < count && i < ends.length ? ends[i] : text.length();
-        }
-
         int lengthAt(int i) {
-            return endAt(i) - beginAt(i);
+            return i >= 0 && i < count && i < begins.length && i < ends.length ? ends[i] - begins[i] : 0;
         }
 
-        /** The first eight bytes of a token, packed. */
+        /** The first eight bytes of a NAME, packed. */
         long nameAt(int i) {
-            int begin = beginAt(i);
-            int end = Math.min(endAt(i), begin + NAME_BYTES);
-            long packed = 0;
-            for (int at = begin; at < end; at++) {
-                packed |= (text.byteAt(at) & 255L) << (8 * (at - begin));
-            }
-            return packed;
-        }
-
-        boolean isAt(int i, String letters) {
-            int begin = beginAt(i);
-            if (lengthAt(i) != letters.length()) {
-                return false;
-            }
-            for (int k = 0; k < letters.length(); k++) {
-                if (text.byteAt(begin + k) != letters.charAt(k)) {
-                    return false;
-                }
-            }
-            return true;
+            return i >= 0 && i < count && i < meanings.length ? meanings[i] : 0;
         }
 
         /** What a NUMBER or WORD counts; BEYOND_LIMIT if it counts too much or is no known word. */
         int worthAt(int i) {
-            if (sortAt(i) == NUMBER) {
-                return numberAt(i);
-            }
-            for (Rate rate : RATES) {
-                if (isAt(i, rate.letters)) {
-                    return rate.worth;
-                }
-            }
-            return BEYOND_LIMIT;
+            return i >= 0 && i < count && i < meanings.length ? (int) meanings[i] : BEYOND_LIMIT;
         }
 
-        private int numberAt(int i) {
-            int end = endAt(i);
+        boolean isAt(int i, String letters) {
+            int begin = beginAt(i);
+            return text.spells(begin, begin + lengthAt(i), letters);
+        }
+
+        private void add(int sort, int begin, int end, long meaning) {
+            if (count >= 0 && count < sorts.length && count < begins.length
+                    && count < ends.length && count < meanings.length) {
+                sorts[count] = sort;
+                begins[count] = begin;
+                ends[count] = end;
+                meanings[count] = meaning;
+                count++;
+            }
+        }
+
+        private long meaningOf(int sort, int begin, int end) {
+            if (sort == NAME) {
+                return text.packed(begin, end);
+            }
+            if (sort == NUMBER) {
+                return numberOf(begin, end);
+            }
+            return sort == WORD ? worthOfWord(begin, end) : 0;
+        }
+
+        private int numberOf(int begin, int end) {
             int number = 0;
-            for (int at = beginAt(i); at < end; at++) {
+            for (int at = begin; at < end; at++) {
                 number = Math.min(10 * number + text.byteAt(at) - '0', BEYOND_LIMIT);
             }
             return number;
         }
 
-        private void add(int sort, int begin, int end) {
-            if (count >= 0 && count < sorts.length && count < begins.length && count < ends.length) {
-                sorts[count] = sort;
-                begins[count] = begin;
-                ends[count] = end;
-                count++;
+        private int worthOfWord(int begin, int end) {
+            for (Rate rate : RATES) {
+                if (text.spells(begin, end, rate.letters)) {
+                    return rate.worth;
+                }
             }
+            return BEYOND_LIMIT;
         }
 
         private int endOfRemark(int begin) {
@@ -601,25 +627,31 @@ public final class MailRouter {
         }
     }
 
-    /** Works sums out; brackets are kept in rows, as a text may nest them hundreds of levels deep. */
+    /** Works sums out; open brackets are kept in rows, as a text may nest them hundreds of levels deep. */
     private static final class Sum {
         private final Tokens tokens;
-        private final Fault fault;
-        // For each open bracket: what stands left of its open signs, and where these signs are.
-        private final int[] totals = new int[TAPE_BYTES + 1];
-        private final int[] totalSigns = new int[TAPE_BYTES + 1];
-        private final int[] products = new int[TAPE_BYTES + 1];
-        private final int[] productSigns = new int[TAPE_BYTES + 1];
+        // What stands left of the open signs in the innermost bracket, and which tokens these signs are.
+        private int total;
+        private int totalSign;
+        private int product;
+        private int productSign;
+        private int factor;
+        // The same for the brackets around it.
+        private final int[] totals = new int[TAPE_BYTES];
+        private final int[] totalSigns = new int[TAPE_BYTES];
+        private final int[] products = new int[TAPE_BYTES];
+        private final int[] productSigns = new int[TAPE_BYTES];
         private int depth;
         private int at;
+        private int faultCode;
+        private int faultToken;
 
-        Sum(Tokens tokens, Fault fault) {
+        Sum(Tokens tokens) {
             this.tokens = tokens;
-            this.fault = fault;
         }
 
         int result() {
-            return totals[0];
+            return total;
         }
 
         /** The first token behind the sum. */
@@ -627,84 +659,112 @@ public final class MailRouter {
             return at;
         }
 
-        /** Works out the sum that begins at a token; false with a fault told. */
+        int faultCode() {
+            return faultCode;
+        }
+
+        int faultToken() {
+            return faultToken;
+        }
+
+        /** Works out the sum that begins at a token; false if it has a fault. */
         boolean workOut(int first) {
             at = first;
             depth = 0;
-            open();
+            beginSum();
             boolean behindFactor = false;
             for (int turn = 0; turn <= TAPE_BYTES; turn++) {
                 int sort = tokens.sortAt(at);
                 if (!behindFactor && sort == '(') {
-                    depth++;
-                    open();
+                    if (!open()) {
+                        return false;
+                    }
                 } else if (!behindFactor) {
-                    if (!readFactor(sort)) {
+                    if (!readFactor(sort) || !endFactor()) {
                         return false;
                     }
                     behindFactor = true;
                 } else if (sort == '*' || sort == '/') {
-                    productSigns[depth] = at;
+                    productSign = at;
                     behindFactor = false;
                 } else {
                     if (!endProduct()) {
                         return false;
                     }
                     if (sort == '+' || sort == '-') {
-                        totalSigns[depth] = at;
+                        totalSign = at;
                         behindFactor = false;
                     } else if (depth == 0) {
                         return true;
-                    } else if (sort != ')') {
-                        return fault.tell(MISPLACED, tokens.beginAt(at));
-                    } else if (!close()) {
+                    } else if (!close(sort) || !endFactor()) {
                         return false;
                     }
                 }
                 at++;
             }
-            return fault.tell(MISPLACED, tokens.beginAt(at));
+            return fail(MISPLACED, at);
         }
 
-        /** Each bracket takes a byte of its own, so the rows are as long as any text needs. */
-        private void open() {
-            depth = Math.min(Math.max(depth, 0), TAPE_BYTES);
-            totalSigns[depth] = NONE;
-            productSigns[depth] = NONE;
+        private void beginSum() {
+            totalSign = NONE;
+            productSign = NONE;
         }
 
-        private boolean close() {
-            int inner = totals[depth];
-            depth = Math.max(depth - 1, 0);
-            return takeFactor(inner);
+        private boolean open() {
+            if (depth < 0 || depth >= TAPE_BYTES) {
+                return fail(MISPLACED, at);
+            }
+            totals[depth] = total;
+            totalSigns[depth] = totalSign;
+            products[depth] = product;
+            productSigns[depth] = productSign;
+            depth++;
+            beginSum();
+            return true;
+        }
+
+        private boolean close(int sort) {
+            if (sort != ')' || depth < 1 || depth > TAPE_BYTES) {
+                return fail(MISPLACED, at);
+            }
+            int inner = total;
+            depth--;
+            total = totals[depth];
+            totalSign = totalSigns[depth];
+            product = products[depth];
+            productSign = productSigns[depth];
+            factor = inner;
+            return true;
         }
 
         private boolean readFactor(int sort) {
             if (sort != NUMBER && sort != WORD) {
-                return fault.tell(MISPLACED, tokens.beginAt(at));
+                return fail(MISPLACED, at);
             }
-            int worth = tokens.worthAt(at);
-            if (worth == BEYOND_LIMIT) {
-                return fault.tell(sort == WORD ? NO_WORD : TOO_MUCH, tokens.beginAt(at));
-            }
-            return takeFactor(worth);
+            factor = tokens.worthAt(at);
+            return factor != BEYOND_LIMIT || fail(sort == WORD ? NO_WORD : TOO_MUCH, at);
         }
 
-        private boolean takeFactor(int factor) {
-            int sign = productSigns[depth];
-            long result = sign == NONE ? factor : combine(products[depth], tokens.sortAt(sign), factor);
-            products[depth] = (int) result;
-            productSigns[depth] = NONE;
-            return isWithinLimit(result) || fault.tell(TOO_MUCH, tokens.beginAt(sign));
+        private boolean endFactor() {
+            int sign = productSign;
+            long result = sign == NONE ? factor : combine(product, tokens.sortAt(sign), factor);
+            product = (int) result;
+            productSign = NONE;
+            return isWithinLimit(result) || fail(TOO_MUCH, sign);
         }
 
         private boolean endProduct() {
-            int sign = totalSigns[depth];
-            int product = products[depth];
-            long result = sign == NONE ? product : combine(totals[depth], tokens.sortAt(sign), product);
-            totals[depth] = (int) result;
-            totalSigns[depth] = NONE;
-            return isWithinLimit(result) || fault.tell(TOO_MUCH, tokens.beginAt(sign));
+            int sign = totalSign;
+            long result = sign == NONE ? product : combine(total, tokens.sortAt(sign), product);
+            total = (int) result;
+            totalSign = NONE;
+            return isWithinLimit(result) || fail(TOO_MUCH, sign);
+        }
+
+        private boolean fail(int code, int token) {
+            faultCode = code;
+            faultToken = token;
+            return false;
         }
 
         private static long combine(long left, int sign, long right) {
@@ -763,7 +823,17 @@ public final class MailRouter {
                     return fault.tell(TOO_MANY_STATEMENTS, tokens.beginAt(at));
                 }
                 int list = listAhead();
-                if (list == NO_LIST ? !readNamed() : !readList(list)) {
+                boolean sound;
+                if (list != NO_LIST) {
+                    sound = readList(list);
+                } else if (!takeName(false)) {
+                    sound = false;
+                } else if (!take('=')) {
+                    sound = readLinks(node);
+                } else {
+                    sound = tokens.sortAt(at) == NAME ? readAliases(node) : readMembers(node);
+                }
+                if (!sound) {
                     return false;
                 }
                 statements++;
@@ -785,17 +855,6 @@ public final class MailRouter {
                 return PRIVATE_LIST;
             }
             return tokens.isAt(at, "gated") ? GATED_LIST : NO_LIST;
-        }
-
-        private boolean readNamed() {
-            if (!takeName(false)) {
-                return false;
-            }
-            int first = node;
-            if (!take('=')) {
-                return readLinks(first);
-            }
-            return tokens.sortAt(at) == NAME ? readAliases(first) : readMembers(first);
         }
 
         private boolean readLinks(int first) {
@@ -898,7 +957,7 @@ public final class MailRouter {
                 return true;
             }
             if (!sum.workOut(at)) {
-                return false;
+                return fault.tell(sum.faultCode(), tokens.beginAt(sum.faultToken()));
             }
             at = sum.next();
             price = Math.max(sum.result(), 0);
@@ -916,6 +975,7 @@ public final class MailRouter {
         private boolean crowded;
         private final long[] names = new long[NODES];
         private final int[] owners = new int[NODES];
+        private int domains;
         private int nets;
         private int leftNets;
         private int gated;
@@ -932,6 +992,7 @@ public final class MailRouter {
         void clear() {
             size = 0;
             crowded = false;
+            domains = 0;
             nets = 0;
             leftNets = 0;
             gated = 0;
@@ -984,6 +1045,9 @@ public final class MailRouter {
             }
             names[size] = name;
             owners[size] = asPrivate ? file : NONE;
+            if (nameByte(name, 0) == '.') {
+                domains |= setOf(size);
+            }
             size++;
             return size - 1;
         }
@@ -1053,11 +1117,14 @@ public final class MailRouter {
         }
 
         boolean isDomain(int node) {
-            return nameByte(nameOf(node), 0) == '.';
+            return holds(domains, node);
         }
 
         int kindOf(int node) {
-            return isDomain(node) ? DOMAIN : holds(nets, node) ? NET : HOST;
+            if (holds(domains, node)) {
+                return DOMAIN;
+            }
+            return holds(nets, node) ? NET : HOST;
         }
 
         boolean isAlias(int one, int other) {
@@ -1080,16 +1147,15 @@ public final class MailRouter {
             return holds(nets, net) && !holds(leftNets, net);
         }
 
-        boolean isGated(int net) {
-            return holds(gated, net);
+        /** Whether it costs more to go into a net. */
+        boolean isGate(int net) {
+            return holds(gated, net) || holds(domains, net);
         }
 
-        boolean isDead(int node) {
-            return holds(dead, node);
-        }
-
-        boolean isDeadLink(int from, int to) {
-            return has(from) && holds(deadLinks[from], to);
+        /** How many of a link and the node from which it goes are dead. */
+        int deathsOn(int from, int to) {
+            int deaths = holds(dead, from) ? 1 : 0;
+            return has(from) && holds(deadLinks[from], to) ? deaths + 1 : deaths;
         }
 
         int linksOf(int node) {
@@ -1111,98 +1177,44 @@ public final class MailRouter {
         }
     }
 
-    /** The links back and the best ways from the home, found when they are first asked for. */
-    private static final class Ways {
+    /** The steps from node to node, among them those by links back. */
+    private static final class Steps {
         private final Atlas atlas;
-        private long homeName;
-        private boolean bestKnown;
-        private boolean roundsKnown;
         private final int[] backs = new int[NODES];
-        // For each key: its best way's cost and steps, the key from which its last step comes, and its kind.
-        private final int[] costs = new int[KEYS];
-        private final int[] lengths = new int[KEYS];
-        private final int[] origins = new int[KEYS];
-        private final int[] kinds = new int[KEYS];
-        private final boolean[] settled = new boolean[KEYS];
-        private final int[] roundCosts = new int[KEYS];
-        // The keys along the route that was laid out last.
-        private final int[] laidOut = new int[KEYS];
 
-        Ways(Atlas atlas) {
+        Steps(Atlas atlas) {
             this.atlas = atlas;
         }
 
-        void beginAt(long name) {
-            homeName = name;
-            forget();
-        }
-
-        /** To be called whenever the atlas changes. */
-        void forget() {
-            bestKnown = false;
-            roundsKnown = false;
-        }
-
-        int homeNode() {
-            return atlas.find(homeName, NONE);
-        }
-
-        int costOfKey(int key) {
-            return key >= 0 && key < KEYS ? costs[key] : NONE;
-        }
-
-        int stepsOfKey(int key) {
-            return key >= 0 && key < KEYS ? lengths[key] : NONE;
-        }
-
-        int stepOfKey(int key) {
-            return key >= 0 && key < KEYS ? kinds[key] : NONE;
-        }
-
-        int keyOn(int place) {
-            return place >= 0 && place < KEYS ? laidOut[place] : NONE;
-        }
-
-        boolean hasLinkBack(int from, int to) {
-            findBest();
+        boolean hasBack(int from, int to) {
             return atlas.has(from) && holds(backs[from], to);
         }
 
-        /** The key with which the route of a node ends; NONE if it has none. */
-        int routeKey(int node) {
-            findBest();
-            if (!atlas.has(node)) {
-                return NONE;
-            }
-            int best = NONE;
-            for (int key = node * STATES; key < (node + 1) * STATES && key < KEYS; key++) {
-                if (costs[key] != NONE && (best == NONE || isShorter(key, best))) {
-                    best = key;
-                }
-            }
-            return best;
+        int targetsOf(int from) {
+            return atlas.has(from) ? atlas.nextTo(from) | backs[from] : 0;
         }
 
-        /** Lays the route of a node out for keyOn(); returns its steps, NONE if it has none. */
-        int layOut(int node) {
-            int key = routeKey(node);
-            int steps = stepsOfKey(key);
-            for (int place = steps; place >= 0 && place < KEYS && key >= 0 && key < KEYS; place--) {
-                laidOut[place] = key;
-                key = origins[key];
+        /** What a step costs on a way with a state; NONE if there is no such step. */
+        int costOf(int from, int state, int kind, int to) {
+            int price = plainCost(from, kind, to);
+            if ((state & RIGHT_WAY) != 0 && markOf(from, kind, to) == LEFT) {
+                price = plus(price, LEFT_AGAIN_MORE);
             }
-            return steps;
+            if ((state & INSIDE_WAY) != 0 && (kind == LINK || kind == BACK || kind == INTO)) {
+                price = plus(price, INSIDE_MORE);
+            }
+            return price;
         }
 
-        int leastByRounds(int node) {
-            findByRounds();
-            int least = NONE;
-            for (int key = node * STATES; key >= 0 && key < (node + 1) * STATES && key < KEYS; key++) {
-                if (roundCosts[key] != NONE && (least == NONE || roundCosts[key] < least)) {
-                    least = roundCosts[key];
-                }
+        int stateBehind(int from, int state, int kind, int to) {
+            int behind = state;
+            if (markOf(from, kind, to) == RIGHT) {
+                behind |= RIGHT_WAY;
             }
-            return least;
+            if ((kind == LINK || kind == OUT) && atlas.isDomain(from) && !atlas.isDomain(to)) {
+                behind |= INSIDE_WAY;
+            }
+            return behind;
         }
 
         int markOf(int from, int kind, int to) {
@@ -1215,68 +1227,45 @@ public final class MailRouter {
             return kind == BACK ? LEFT : UNMARKED;
         }
 
-        private boolean isShorter(int key, int other) {
-            return costs[key] != costs[other] ? costs[key] < costs[other] : lengths[key] < lengths[other];
-        }
-
-        private void findBest() {
-            if (bestKnown) {
-                return;
-            }
-            bestKnown = true;
-            for (int key = 0; key < KEYS; key++) {
-                costs[key] = NONE;
-                lengths[key] = NONE;
-                settled[key] = false;
-            }
-            int home = homeNode();
-            findLinksBack(home);
-            if (!atlas.has(home)) {
-                return;
-            }
-            int start = home * STATES;
-            costs[start] = 0;
-            lengths[start] = 0;
-            origins[start] = NONE;
-            kinds[start] = BEGIN;
-            for (int turn = 0; turn < KEYS; turn++) {
-                int key = nearestUnsettled();
-                if (key == NONE) {
-                    return;
-                }
-                settled[key] = true;
-                goOnFrom(key);
+        private int plainCost(int from, int kind, int to) {
+            switch (kind) {
+                case ALIAS:
+                    return atlas.isAlias(from, to) ? 0 : NONE;
+                case LINK:
+                    return plus(atlas.priceOfLink(from, to), DEAD_MORE * atlas.deathsOn(from, to));
+                case INTO:
+                    return plus(atlas.priceOfMember(from, to), atlas.isGate(to) ? GATE_MORE : 0);
+                case OUT:
+                    return atlas.priceOfMember(to, from) == NONE ? NONE : 0;
+                case BACK:
+                    return hasBack(from, to) ? plus(atlas.priceOfLink(to, from), BACK_MORE) : NONE;
+                default:
+                    return NONE;
             }
         }
 
-        private void findLinksBack(int home) {
+        private static int plus(int price, int more) {
+            return price == NONE ? NONE : price + more;
+        }
+
+        /** Finds the links back for a home, or without one that there are none. */
+        void findLinksBack(int home) {
             for (int node = 0; node < NODES; node++) {
                 backs[node] = 0;
             }
             int reached = setOf(home);
             for (int turn = 0; turn <= NODES; turn++) {
                 reached = spread(reached);
-                int turned = 0;
-                for (int node = 0; node < atlas.size() && node < NODES; node++) {
+                boolean turned = false;
+                for (int node = 0; node < NODES; node++) {
                     if (!holds(reached, node)) {
                         turned |= turnLinks(node, reached);
                     }
                 }
-                if (turned == 0) {
+                if (!turned) {
                     return;
                 }
             }
-        }
-
-        /** Gives links back to the links of a node that lead into a set; returns those that they lead to. */
-        private int turnLinks(int node, int reached) {
-            int targets = atlas.linksOf(node) & reached;
-            for (int target = 0; target < NODES; target++) {
-                if (holds(targets, target)) {
-                    backs[target] |= setOf(node);
-                }
-            }
-            return targets;
         }
 
         /** All nodes to which ways lead from those of a set. */
@@ -1286,14 +1275,148 @@ public final class MailRouter {
                 int before = all;
                 for (int node = 0; node < NODES; node++) {
                     if (holds(all, node)) {
-                        all |= atlas.nextTo(node) | backs[node];
+                        all |= targetsOf(node);
                     }
                 }
                 if (all == before) {
-                    break;
+                    return all;
                 }
             }
             return all;
+        }
+
+        /** Gives links back to all links from a node into a set; whether there were any. */
+        private boolean turnLinks(int node, int reached) {
+            int targets = atlas.linksOf(node) & reached;
+            for (int target = 0; target < NODES; target++) {
+                if (holds(targets, target)) {
+                    backs[target] |= setOf(node);
+                }
+            }
+            return targets != 0;
+        }
+    }
+
+    /** The best ways from the home; find() or findByRounds() comes ahead of the questions. */
+    private static final class Ways {
+        private final Atlas atlas;
+        private final Steps steps;
+        private long homeName;
+        private boolean known;
+        private boolean knownByRounds;
+        // For each key: its best way's cost and number of steps, the key from which its last step comes, its kind.
+        private final int[] costs = new int[KEYS];
+        private final int[] lengths = new int[KEYS];
+        private final int[] origins = new int[KEYS];
+        private final int[] kinds = new int[KEYS];
+        private final boolean[] settled = new boolean[KEYS];
+        private final int[] roundCosts = new int[KEYS];
+        // The keys along the route that was laid out last.
+        private final int[] laidOut = new int[KEYS];
+
+        Ways(Atlas atlas, Steps steps) {
+            this.atlas = atlas;
+            this.steps = steps;
+        }
+
+        void beginAt(long name) {
+            homeName = name;
+            forget();
+        }
+
+        /** To be called whenever the atlas changes. */
+        void forget() {
+            known = false;
+            knownByRounds = false;
+        }
+
+        int homeNode() {
+            return atlas.find(homeName, NONE);
+        }
+
+        int costOfKey(int key) {
+            return key >= 0 && key < KEYS ? costs[key] : NONE;
+        }
+
+        int lengthOfKey(int key) {
+            return key >= 0 && key < KEYS ? lengths[key] : NONE;
+        }
+
+        int kindOfKey(int key) {
+            return key >= 0 && key < KEYS ? kinds[key] : NONE;
+        }
+
+        int keyOn(int place) {
+            return place >= 0 && place < KEYS ? laidOut[place] : NONE;
+        }
+
+        /** The key with which the route of a node ends; NONE if it has none. */
+        int routeKey(int node) {
+            if (node < 0 || node >= NODES) {
+                return NONE;
+            }
+            int best = NONE;
+            for (int key = node * STATES; key < (node + 1) * STATES; key++) {
+                if (costs[key] != NONE && (best == NONE || isShorter(key, best))) {
+                    best = key;
+                }
+            }
+            return best;
+        }
+
+        /** Lays the route of a node out for keyOn(); returns how many steps it has, NONE if there is none. */
+        int layOut(int node) {
+            int key = routeKey(node);
+            int length = lengthOfKey(key);
+            for (int place = length; place >= 0 && place < KEYS && key >= 0 && key < KEYS; place--) {
+                laidOut[place] = key;
+                key = origins[key];
+            }
+            return length;
+        }
+
+        int leastByRounds(int node) {
+            if (node < 0 || node >= NODES) {
+                return NONE;
+            }
+            int least = NONE;
+            for (int key = node * STATES; key < (node + 1) * STATES; key++) {
+                if (roundCosts[key] != NONE && (least == NONE || roundCosts[key] < least)) {
+                    least = roundCosts[key];
+                }
+            }
+            return least;
+        }
+
+        /** Finds the links back and the best ways, always going on from the nearest key, unless they are known. */
+        void find() {
+            if (known) {
+                return;
+            }
+            known = true;
+            for (int key = 0; key < KEYS; key++) {
+                costs[key] = NONE;
+                lengths[key] = NONE;
+                settled[key] = false;
+            }
+            int home = homeNode();
+            steps.findLinksBack(home);
+            if (home < 0 || home >= NODES) {
+                return;
+            }
+            int start = home * STATES;
+            costs[start] = 0;
+            lengths[start] = 0;
+            origins[start] = NONE;
+            kinds[start] = BEGIN;
+            for (int turn = 0; turn < KEYS; turn++) {
+                int key = nearestUnsettled();
+                if (key < 0 || key >= KEYS) {
+                    return;
+                }
+                settled[key] = true;
+                goOnFrom(key);
+            }
         }
 
         private int nearestUnsettled() {
@@ -1306,21 +1429,25 @@ public final class MailRouter {
             return nearest;
         }
 
+        private boolean isShorter(int key, int other) {
+            return costs[key] != costs[other] ? costs[key] < costs[other] : lengths[key] < lengths[other];
+        }
+
         private void goOnFrom(int key) {
             int from = key / STATES;
             int state = key % STATES;
-            int next = targetsOf(from);
+            int targets = steps.targetsOf(from);
             for (int to = 0; to < NODES; to++) {
-                for (int kind = ALIAS; kind <= BACK && holds(next, to); kind++) {
-                    int more = stepCost(from, state, kind, to);
+                for (int kind = ALIAS; kind <= BACK && holds(targets, to); kind++) {
+                    int more = steps.costOf(from, state, kind, to);
                     if (more != NONE) {
-                        offer(to * STATES + stateBehind(from, state, kind, to), more, key, kind);
+                        offer(to * STATES + steps.stateBehind(from, state, kind, to), more, key, kind);
                     }
                 }
             }
         }
 
-        /** Takes a way to a key, by one step more from another one, if it is better than the one so far. */
+        /** Takes a way to a key, by a step more from another one, if it is better than the one so far. */
         private void offer(int key, int more, int origin, int kind) {
             if (key < 0 || key >= KEYS || origin < 0 || origin >= KEYS || settled[key]) {
                 return;
@@ -1328,12 +1455,16 @@ public final class MailRouter {
             int newCost = costs[origin] + more;
             int newLength = lengths[origin] + 1;
             boolean better;
-            if (costs[key] == NONE || newCost != costs[key]) {
-                better = costs[key] == NONE || newCost < costs[key];
+            if (costs[key] == NONE) {
+                better = true;
+            } else if (newCost != costs[key]) {
+                better = newCost < costs[key];
             } else if (newLength != lengths[key]) {
                 better = newLength < lengths[key];
+            } else if (origin != origins[key]) {
+                better = origin < origins[key];
             } else {
-                better = origin != origins[key] ? origin < origins[key] : kind < kinds[key];
+                better = kind < kinds[key];
             }
             if (better) {
                 costs[key] = newCost;
@@ -1343,17 +1474,17 @@ public final class MailRouter {
             }
         }
 
-        private void findByRounds() {
-            findBest();
-            if (roundsKnown) {
+        /** Finds the least costs, with the links back that find() found, by rounds, unless they are known. */
+        void findByRounds() {
+            if (knownByRounds) {
                 return;
             }
-            roundsKnown = true;
+            knownByRounds = true;
             for (int key = 0; key < KEYS; key++) {
                 roundCosts[key] = NONE;
             }
             int home = homeNode();
-            if (!atlas.has(home)) {
+            if (home < 0 || home >= NODES) {
                 return;
             }
             roundCosts[home * STATES] = 0;
@@ -1361,115 +1492,61 @@ public final class MailRouter {
             for (int round = 0; round <= KEYS && less; round++) {
                 less = false;
                 for (int key = 0; key < KEYS; key++) {
-                    less |= roundCosts[key] != NONE && lessenFrom(key);
+                    if (roundCosts[key] != NONE) {
+                        less |= lessenFrom(key, roundCosts[key]);
+                    }
                 }
             }
         }
 
-        private boolean lessenFrom(int key) {
+        private boolean lessenFrom(int key, int costSoFar) {
             int from = key / STATES;
             int state = key % STATES;
-            int next = targetsOf(from);
+            int targets = steps.targetsOf(from);
             boolean less = false;
             for (int to = 0; to < NODES; to++) {
-                for (int kind = ALIAS; kind <= BACK && holds(next, to); kind++) {
-                    int more = stepCost(from, state, kind, to);
-                    int target = to * STATES + stateBehind(from, state, kind, to);
-                    if (more != NONE && isLess(roundCosts[key] + more, target)) {
-                        roundCosts[target] = roundCosts[key] + more;
-                        less = true;
+                for (int kind = ALIAS; kind <= BACK && holds(targets, to); kind++) {
+                    int more = steps.costOf(from, state, kind, to);
+                    if (more != NONE) {
+                        less |= lessen(to * STATES + steps.stateBehind(from, state, kind, to), costSoFar + more);
                     }
                 }
             }
             return less;
         }
 
-        private boolean isLess(int newCost, int key) {
-            return key >= 0 && key < KEYS && (roundCosts[key] == NONE || newCost < roundCosts[key]);
-        }
-
-        private int targetsOf(int from) {
-            return atlas.has(from) ? atlas.nextTo(from) | backs[from] : 0;
-        }
-
-        /** What a step costs on a way with a state; NONE if there is no such step. */
-        private int stepCost(int from, int state, int kind, int to) {
-            int price = plainCost(from, kind, to);
-            if (price == NONE) {
-                return NONE;
+        private boolean lessen(int key, int newCost) {
+            if (key < 0 || key >= KEYS || roundCosts[key] != NONE && roundCosts[key] <= newCost) {
+                return false;
             }
-            if ((state & RIGHT_WAY) != 0 && markOf(from, kind, to) == LEFT) {
-                price += LEFT_AGAIN_MORE;
-            }
-            if ((state & INSIDE_WAY) != 0 && (kind == LINK || kind == BACK || kind == INTO)) {
-                price += INSIDE_MORE;
-            }
-            return price;
-        }
-
-        private int plainCost(int from, int kind, int to) {
-            switch (kind) {
-                case ALIAS:
-                    return atlas.isAlias(from, to) ? 0 : NONE;
-                case LINK:
-                    return linkStepCost(from, to);
-                case INTO:
-                    int into = atlas.priceOfMember(from, to);
-                    boolean gate = atlas.isGated(to) || atlas.isDomain(to);
-                    return into == NONE || !gate ? into : into + GATE_MORE;
-                case OUT:
-                    return atlas.priceOfMember(to, from) == NONE ? NONE : 0;
-                case BACK:
-                    boolean back = atlas.has(from) && holds(backs[from], to);
-                    return back ? atlas.priceOfLink(to, from) + BACK_MORE : NONE;
-                default:
-                    return NONE;
-            }
-        }
-
-        private int linkStepCost(int from, int to) {
-            int price = atlas.priceOfLink(from, to);
-            if (price == NONE) {
-                return NONE;
-            }
-            int deadLink = atlas.isDeadLink(from, to) ? DEAD_MORE : 0;
-            int deadNode = atlas.isDead(from) ? DEAD_MORE : 0;
-            return price + deadLink + deadNode;
-        }
-
-        private int stateBehind(int from, int state, int kind, int to) {
-            int behind = state;
-            if (markOf(from, kind, to) == RIGHT) {
-                behind |= RIGHT_WAY;
-            }
-            if ((kind == LINK || kind == OUT) && atlas.isDomain(from) && !atlas.isDomain(to)) {
-                behind |= INSIDE_WAY;
-            }
-            return behind;
+            roundCosts[key] = newCost;
+            return true;
         }
     }
 
     /** Writes routes and addresses on the out. */
     private static final class Printer {
         private final Atlas atlas;
+        private final Steps steps;
         private final Ways ways;
         private final Text out;
 
-        Printer(Atlas atlas, Ways ways, Text out) {
+        Printer(Atlas atlas, Steps steps, Ways ways, Text out) {
             this.atlas = atlas;
+            this.steps = steps;
             this.ways = ways;
             this.out = out;
         }
 
         void writeRouteOf(int node) {
             out.clear();
-            int steps = ways.layOut(node);
-            if (steps == NONE) {
+            int length = ways.layOut(node);
+            if (length == NONE) {
                 return;
             }
-            writeLeft(steps);
+            writeLeft(length);
             out.append('%');
-            writeRight(steps);
+            writeRight(length);
         }
 
         void writeAddress(Text address) {
@@ -1490,14 +1567,14 @@ public final class MailRouter {
         /** Writes an address by the route of the node that its part from begin to end is known by. */
         private void writeAlong(int node, Text address, int begin, int end) {
             boolean byDomain = end - begin > lengthOfName(node);
-            int steps = ways.layOut(node);
-            writeLeft(steps);
+            int length = ways.layOut(node);
+            writeLeft(length);
             if (byDomain) {
                 out.appendPart(address, begin, end);
                 out.append('!');
             }
             out.appendPart(address, end + 1, address.length());
-            writeRight(steps);
+            writeRight(length);
         }
 
         private static int beginOfPart(Text address, int end) {
@@ -1551,8 +1628,8 @@ public final class MailRouter {
             return length;
         }
 
-        private void writeLeft(int steps) {
-            for (int place = 1; place <= steps; place++) {
+        private void writeLeft(int length) {
+            for (int place = 1; place <= length; place++) {
                 if (printedMark(place) == LEFT) {
                     writeNameOnWay(place);
                     out.append('!');
@@ -1561,8 +1638,8 @@ public final class MailRouter {
         }
 
         /** The later a step is, the nearer to the %, so the last one is written first. */
-        private void writeRight(int steps) {
-            for (int place = steps; place >= 1; place--) {
+        private void writeRight(int length) {
+            for (int place = length; place >= 1; place--) {
                 if (printedMark(place) == RIGHT) {
                     out.append('@');
                     writeNameOnWay(place);
@@ -1573,8 +1650,8 @@ public final class MailRouter {
         /** The mark of the step to a place, if it is printed. */
         private int printedMark(int place) {
             int to = nodeOn(place);
-            int kind = ways.stepOfKey(ways.keyOn(place));
-            return atlas.kindOf(to) == HOST ? ways.markOf(nodeOn(place - 1), kind, to) : UNMARKED;
+            int kind = ways.kindOfKey(ways.keyOn(place));
+            return atlas.kindOf(to) == HOST ? steps.markOf(nodeOn(place - 1), kind, to) : UNMARKED;
         }
 
         private void writeNameOnWay(int last) {
@@ -1585,7 +1662,7 @@ public final class MailRouter {
         }
 
         private boolean comesFromDomain(int place) {
-            int kind = ways.stepOfKey(ways.keyOn(place));
+            int kind = ways.kindOfKey(ways.keyOn(place));
             return (kind == LINK || kind == BACK || kind == OUT) && atlas.isDomain(nodeOn(place - 1));
         }
 
