@@ -174,103 +174,80 @@ public final class MailRouter {
     }
 
     public int name(int node) throws IndexOutOfBoundsException {
-        if (!atlas.has(node)) {
-            throw new IndexOutOfBoundsException("there is no such node");
-        }
+        needNode(node);
         out.clear();
         out.appendName(atlas.nameOf(node));
         return out.length();
     }
 
     public int kind(int node) throws IndexOutOfBoundsException {
-        if (!atlas.has(node)) {
-            throw new IndexOutOfBoundsException("there is no such node");
-        }
+        needNode(node);
         return atlas.kindOf(node);
     }
 
     public boolean isPrivate(int node) throws IndexOutOfBoundsException {
-        if (!atlas.has(node)) {
-            throw new IndexOutOfBoundsException("there is no such node");
-        }
+        needNode(node);
         return atlas.isOwned(node);
     }
 
     public int linkCost(int from, int to) throws IndexOutOfBoundsException {
-        if (!atlas.has(from) || !atlas.has(to)) {
-            throw new IndexOutOfBoundsException("there is no such node");
-        }
+        needNode(from);
+        needNode(to);
         return atlas.priceOfLink(from, to);
     }
 
     public int memberCost(int member, int net) throws IndexOutOfBoundsException {
-        if (!atlas.has(member) || !atlas.has(net)) {
-            throw new IndexOutOfBoundsException("there is no such node");
-        }
+        needNode(member);
+        needNode(net);
         return atlas.priceOfMember(member, net);
     }
 
     // ---- routes
 
     public int cost(int node) throws IndexOutOfBoundsException {
-        if (!atlas.has(node)) {
-            throw new IndexOutOfBoundsException("there is no such node");
-        }
+        needNode(node);
         ways.find();
         return ways.costOfKey(ways.routeKey(node));
     }
 
     public int costByRounds(int node) throws IndexOutOfBoundsException {
-        if (!atlas.has(node)) {
-            throw new IndexOutOfBoundsException("there is no such node");
-        }
+        needNode(node);
         ways.find();
         ways.findByRounds();
         return ways.leastByRounds(node);
     }
 
     public int steps(int node) throws IndexOutOfBoundsException {
-        if (!atlas.has(node)) {
-            throw new IndexOutOfBoundsException("there is no such node");
-        }
+        needNode(node);
         ways.find();
         return ways.lengthOfKey(ways.routeKey(node));
     }
 
     public int state(int node) throws IndexOutOfBoundsException {
-        if (!atlas.has(node)) {
-            throw new IndexOutOfBoundsException("there is no such node");
-        }
+        needNode(node);
         ways.find();
         int key = ways.routeKey(node);
         return key == NONE ? NONE : key % STATES;
     }
 
     public int nodeAt(int node, int place) throws IndexOutOfBoundsException {
-        if (!hasPlace(node, place)) {
-            throw new IndexOutOfBoundsException("there is no such node or place");
-        }
+        needPlace(node, place);
         return ways.keyOn(place) / STATES;
     }
 
     public int costAt(int node, int place) throws IndexOutOfBoundsException {
-        if (!hasPlace(node, place)) {
-            throw new IndexOutOfBoundsException("there is no such node or place");
-        }
+        needPlace(node, place);
         return ways.costOfKey(ways.keyOn(place));
     }
 
     public int stepAt(int node, int place) throws IndexOutOfBoundsException {
-        if (!hasPlace(node, place)) {
-            throw new IndexOutOfBoundsException("there is no such node or place");
-        }
+        needPlace(node, place);
         return ways.kindOfKey(ways.keyOn(place));
     }
 
     public boolean isBack(int from, int to) throws IndexOutOfBoundsException {
-        if (!atlas.has(from) || !atlas.has(to)) {
-            throw new IndexOutOfBoundsException("there is no such node");
-        }
+        needNode(from);
+        needNode(to);
         ways.find();
         return stepRules.hasBack(from, to);
     }
@@ -278,9 +255,7 @@ public final class MailRouter {
     // ---- the out
 
     public int print(int node) throws IndexOutOfBoundsException {
-        if (!atlas.has(node)) {
-            throw new IndexOutOfBoundsException("there is no such node");
-        }
+        needNode(node);
         ways.find();
         printer.writeRouteOf(node);
         return out.length();
@@ -313,10 +288,19 @@ public final class MailRouter {
         return file >= 0 && file < FILES;
     }
 
-    /** Whether the route of the node has such a place; the route is laid out then. */
-    private boolean hasPlace(int node, int place) {
+    private void needNode(int node) {
+        if (!atlas.has(node)) {
+            throw new IndexOutOfBoundsException("there is no such node");
+        }
+    }
+
+    /** Lays the route of a node out, if it has such a place. */
+    private void needPlace(int node, int place) {
+        needNode(node);
         ways.find();
-        return atlas.has(node) && place >= 0 && place <= ways.layOut(node);
+        if (place < 0 || place > ways.layOut(node)) {
+            throw new IndexOutOfBoundsException("there is no such place");
+        }
     }
 
     /** Draws the map of all files anew, the tape in the stead of one of them; false with a fault told. */

@@ -213,6 +213,9 @@ public final class LanguageTest {
         CHECK.dueValueFault("?", 1, 0);
         CHECK.dueValueFault("(".repeat(600), 1, 600);
         CHECK.dueValueFault("NOW", 3, 0);
+        CHECK.dueValueFault("1*AZ", 3, 2);
+        CHECK.dueValueFault("@", 1, 0);
+        CHECK.dueValueFault("[", 1, 0);
         CHECK.dueValueFault("1+LOWLOW", 3, 2);
         CHECK.dueValueFault("1000001", 4, 0);
         CHECK.dueValueFault("1+99999999999999999999", 4, 2);

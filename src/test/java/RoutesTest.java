@@ -68,6 +68,9 @@ public final class RoutesTest {
         CHECK.dueCost(x, "g", 200011);
         CHECK.dueCost(Check.router("a", "dead{b!a};a b(1)"), "b", 1);
         CHECK.dueCost(Check.router("a", "a b(1)", "", "", "dead{a,a}"), "b", 100001);
+        x = Check.router("a", "dead{a!b,a!c};a b(1),c(2)");
+        CHECK.dueCost(x, "b", 100001);
+        CHECK.dueCost(x, "c", 100002);
         // A way round what is dead is taken if it costs less.
         CHECK.dueRoute(Check.router("a", "a b(1),c(99999);c b(1);dead{a!b}"), "b", "0a 2c 2b");
         CHECK.dueRoute(Check.router("a", "a b(1),c(100001);c b(1);dead{a!b}"), "b", "0a 2b");
@@ -216,6 +219,31 @@ public final class RoutesTest {
         CHECK.dueCost(x, "a", 200001);
     }
 
+    /** Each question is answered as well if it is the first one behind a change. */
+    private static void firstQuestions() {
+        String text = "a @b(1);b c(2);d c(3)";
+        CHECK.due("cost first", Check.router("a", text).cost(2), 50003);
+        CHECK.due("costByRounds first", Check.router("a", text).costByRounds(2), 50003);
+        CHECK.due("costByRounds over a link back first", Check.router("a", text).costByRounds(3), 300006);
+        CHECK.due("steps first", Check.router("a", text).steps(2), 2);
+        CHECK.due("state first", Check.router("a", text).state(2), 1);
+        CHECK.due("nodeAt first", Check.router("a", text).nodeAt(2, 1), 1);
+        CHECK.due("costAt first", Check.router("a", text).costAt(2, 1), 1);
+        CHECK.due("stepAt first", Check.router("a", text).stepAt(2, 1), MailRouter.LINK);
+        CHECK.due("isBack first", Check.router("a", text).isBack(2, 3), true);
+        CHECK.due("print first", Check.router("a", text).print(2), 5);
+        MailRouter x = Check.router("a", text);
+        CHECK.dueRewrite(x, "c!me", "c!me@b");
+        CHECK.due("costByRounds", x.costByRounds(2), 50003);
+        Check.setHome(x, "b");
+        CHECK.due("costByRounds behind setHome", x.costByRounds(2), 2);
+        Check.load(x, 0, "a b(4);b c(5)");
+        CHECK.due("costByRounds behind load", x.costByRounds(2), 5);
+        x.drop(0);
+        CHECK.due("costByRounds behind drop", Check.load(x, 1, "b c(6)"), 1);
+        CHECK.due("costByRounds behind drop and load", x.costByRounds(1), 6);
+    }
+
     private static void longWays() {
         StringBuilder text = new StringBuilder();
         for (char c = 'a'; c < 'x'; c++) {
@@ -244,6 +272,7 @@ public final class RoutesTest {
         linksBack();
         whateverIsDead();
         linksBackFollowTheHome();
+        firstQuestions();
         longWays();
         CHECK.end();
     }
