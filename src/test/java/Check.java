@@ -1,4 +1,6 @@
 import java.nio.charset.StandardCharsets;
+import java.util.function.Consumer;
+import java.util.function.Supplier;
 
 /** What the tests share: texts onto the tape, texts from the out, and a count of wrong answers. */
 final class Check {
@@ -50,11 +52,13 @@ final class Check {
         return router.value();
     }
 
-    /** The out with the zeros behind its end cut off. */
+    /** The out, up to eight zeros in a row, with the zeros behind its end cut off. */
     static String out(MailRouter router) {
         StringBuilder text = new StringBuilder();
-        for (int i = 0; i < 200; i++) {
-            long word = router.word(i);
+        long word = -1;
+        // An object answers 512 calls, so no word is asked for behind the end.
+        for (int i = 0; i < 200 && word != 0; i++) {
+            word = router.word(i);
             for (int k = 0; k < 8; k++) {
                 text.append((char) (word >>> (8 * k) & 255));
             }
@@ -64,6 +68,19 @@ final class Check {
             end--;
         }
         return text.substring(0, end);
+    }
+
+    /** The out of so many bytes, with what stands behind its end, if anything does. */
+    static String out(MailRouter router, int length) {
+        StringBuilder text = new StringBuilder();
+        for (int i = 0; i <= length / 8; i++) {
+            long word = router.word(i);
+            for (int k = 0; k < 8; k++) {
+                text.append((char) (word >>> (8 * k) & 255));
+            }
+        }
+        boolean ends = text.substring(length).chars().allMatch(c -> c == 0);
+        return text.substring(0, length) + (ends ? "" : " and behind its end " + text.substring(length));
     }
 
     void due(String what, long got, long want) {
@@ -95,6 +112,47 @@ final class Check {
             thrown = e.getClass();
         }
         due(what + " threw", String.valueOf(thrown), String.valueOf(kind));
+    }
+
+    /**
+     * The call throws an exception of just this class, and changes nothing: a router that is made in the same way
+     * and not called answers all questions alike. A call that takes the tape over uses it up.
+     */
+    void dueRefused(String what, Supplier<MailRouter> make, Consumer<MailRouter> call,
+            Class<? extends RuntimeException> kind, boolean takesTape) {
+        MailRouter called = make.get();
+        MailRouter other = make.get();
+        dueThrow(what, kind, () -> call.accept(called));
+        if (takesTape) {
+            other.lookUp();
+        }
+        due("all answers behind " + what, everything(called), everything(other));
+    }
+
+    /** All that a router with few nodes tells, the tape and the files last, since they are used up by it. */
+    static String everything(MailRouter x) {
+        StringBuilder all = new StringBuilder("out ").append(out(x));
+        all.append(" home ").append(x.home()).append(" fault ").append(x.fault(false)).append(" ").append(x.fault(true));
+        for (int node = 0; node < x.nodes(); node++) {
+            x.name(node);
+            all.append("\n").append(out(x)).append(" ").append(x.kind(node)).append(x.isPrivate(node));
+            all.append(" ").append(x.cost(node)).append(" ").append(x.costByRounds(node)).append(" ").append(x.state(node));
+            for (int place = 0; place <= x.steps(node); place++) {
+                all.append(" ").append(x.nodeAt(node, place)).append("/").append(x.costAt(node, place));
+                all.append("/").append(x.stepAt(node, place));
+            }
+            x.print(node);
+            all.append(" ").append(out(x));
+            for (int to = 0; to < x.nodes(); to++) {
+                all.append(" ").append(x.linkCost(node, to)).append("/").append(x.memberCost(node, to));
+                all.append("/").append(x.isBack(node, to));
+            }
+        }
+        for (int file = 0; file < 4; file++) {
+            all.append("\nfile ").append(x.drop(file)).append(" ").append(x.nodes());
+        }
+        x.rewrite();
+        return all.append("\ntape ").append(out(x)).toString();
     }
 
     /** The text is loaded into file 0 of a new router: so many statements. */
@@ -137,14 +195,14 @@ final class Check {
 
     void duePrint(MailRouter router, String name, String want) {
         int length = router.print(lookUp(router, name));
-        due("print of " + name, out(router), want);
+        due("print of " + name, out(router, length), want);
         due("length of the print of " + name, length, want.length());
     }
 
     void dueRewrite(MailRouter router, String address, String want) {
         feed(router, address);
         int length = router.rewrite();
-        due("rewrite of " + address, out(router), want);
+        due("rewrite of " + address, out(router, length), want);
         due("length of the rewrite of " + address, length, want.length());
     }
 
