@@ -3,6 +3,13 @@ import java.util.function.LongSupplier;
 /** Runs of calls, drawn by a fixed rule, on a MailRouter and on the PlainRouter: all answers must be the same. */
 public final class RandomRuns {
     private static final int RUNS = 1500;
+    // An object is good for so many calls.
+    private static final int CALLS = 512;
+    private static final int NONE = MailRouter.NONE;
+    private static final int NO_FILE = -1000003;
+    private static final int WORDS_OF_OUT = 21;
+    private static final int PLACES = 9;
+    private static final int CALLS_OF_NODE = 8 + 2 * WORDS_OF_OUT + 3 * PLACES;
     private static final String[] NAMES = {
         "a", "b", "c", "d", "e", "f", "g", "n", "m", ".x", ".y", ".x.y", "a.x", "dead", "private", "gated"};
     private static final String[] WORDS = {
@@ -13,7 +20,13 @@ public final class RandomRuns {
 
     private long seed;
     private MailRouter router;
+    private int callsOfRouter;
     private PlainRouter plain;
+    // What brings a new router to where this one is: the text of each file, and the name of the home, if any.
+    private String[] texts;
+    private String home;
+    // A new router does not know of faults until the next load() or value().
+    private boolean faultKnown;
     private String story = "";
     private int differing = 0;
     private long asked = 0;
@@ -118,17 +131,44 @@ public final class RandomRuns {
         } catch (IllegalStateException e) {
             return -1000002;
         } catch (IndexOutOfBoundsException e) {
-            return e.getClass() == IndexOutOfBoundsException.class ? -1000003 : -1000004;
+            return e.getClass() == IndexOutOfBoundsException.class ? NO_FILE : -1000004;
         }
     }
 
-    private void same(String call, LongSupplier mine, LongSupplier due) {
+    /** Returns what is due. */
+    private long same(String call, LongSupplier mine, LongSupplier due) {
         asked++;
+        callsOfRouter++;
+        if (callsOfRouter > CALLS) throw new IllegalStateException("an object is asked too often");
         long got = answer(mine);
         long want = answer(due);
         if (got != want && differing++ < 10) {
             System.out.println("behind" + story + "\n  " + call + " answered " + got + ", due is " + want);
         }
+        return want;
+    }
+
+    /** If the router is not good for so many calls more, a new one goes on, with an empty tape and out. */
+    private void haveCallsLeft(int calls) {
+        if (callsOfRouter + calls <= CALLS) return;
+        router = new MailRouter();
+        callsOfRouter = 0;
+        for (int file = 0; file < texts.length; file++) {
+            if (texts[file].isEmpty()) continue;
+            Check.load(router, file, texts[file]);
+            callsOfRouter += feedsOf(texts[file]) + 1;
+        }
+        if (!home.isEmpty()) {
+            Check.setHome(router, home);
+            callsOfRouter += feedsOf(home) + 1;
+        }
+        // The PlainRouter stays; with its tape empty, this makes its out empty, too.
+        plain.rewrite();
+        faultKnown = false;
+    }
+
+    private static int feedsOf(String text) {
+        return (text.length() + 7) / 8;
     }
 
     private void feed(String text) {
@@ -143,8 +183,8 @@ public final class RandomRuns {
     }
 
     private void sameOut() {
-        for (int i = -1; i < 20; i++) {
-            int at = i;
+        for (int i = 0; i < WORDS_OF_OUT; i++) {
+            int at = i - 1;
             same("word(" + at + ")", () -> router.word(at), () -> plain.word(at));
         }
     }
@@ -152,31 +192,42 @@ public final class RandomRuns {
     private void change() {
         int what = draw(10);
         int file = draw(40) == 0 ? 4 - draw(2) * 5 : draw(4);
+        haveCallsLeft(75 + 1 + 4);
         if (what < 6) {
-            feed(text());
+            String text = text();
+            feed(text);
             story += " load " + file;
-            same("load(" + file + ")", () -> router.load(file), () -> plain.load(file));
+            long due = same("load(" + file + ")", () -> router.load(file), () -> plain.load(file));
+            if (due >= 0) texts[file] = text;
+            if (due != NO_FILE) faultKnown = true;
         } else if (what == 6) {
             story += "\n  drop " + file;
-            same("drop(" + file + ")", () -> router.drop(file), () -> plain.drop(file));
+            long due = same("drop(" + file + ")", () -> router.drop(file), () -> plain.drop(file));
+            if (due >= 0) texts[file] = "";
         } else if (what == 7) {
-            StringBuilder text = new StringBuilder(sum(3));
-            if (draw(3) == 0) spoil(text);
-            feed(text.length() > 600 ? text.substring(0, 600) : text.toString());
-            same("value()", router::value, plain::value);
+            StringBuilder sum = new StringBuilder(sum(3));
+            if (draw(3) == 0) spoil(sum);
+            feed(sum.length() > 600 ? sum.substring(0, 600) : sum.toString());
+            same("value()", () -> router.value(), plain::value);
+            faultKnown = true;
         } else {
-            feed(draw(9) == 0 ? pick(SCRAPS) : name(NAMES.length));
+            String name = draw(9) == 0 ? pick(SCRAPS) : name(NAMES.length);
+            feed(name);
             story += " setHome";
-            same("setHome()", router::setHome, plain::setHome);
+            long due = same("setHome()", () -> router.setHome(), plain::setHome);
+            if (due >= NONE) home = name;
         }
-        same("fault(false)", () -> router.fault(false), () -> plain.fault(false));
-        same("fault(true)", () -> router.fault(true), () -> plain.fault(true));
-        same("home()", router::home, plain::home);
-        same("nodes()", router::nodes, plain::nodes);
+        if (faultKnown) {
+            same("fault(false)", () -> router.fault(false), () -> plain.fault(false));
+            same("fault(true)", () -> router.fault(true), () -> plain.fault(true));
+        }
+        same("home()", () -> router.home(), plain::home);
+        same("nodes()", () -> router.nodes(), plain::nodes);
     }
 
     private void askOfNode(int node) {
         String n = "(" + node + ")";
+        haveCallsLeft(CALLS_OF_NODE);
         same("name" + n, () -> router.name(node), () -> plain.name(node));
         sameOut();
         same("kind" + n, () -> router.kind(node), () -> plain.kind(node));
@@ -187,8 +238,8 @@ public final class RandomRuns {
         same("state" + n, () -> router.state(node), () -> plain.state(node));
         same("print" + n, () -> router.print(node), () -> plain.print(node));
         sameOut();
-        for (int i = -1; i < 8; i++) {
-            int place = i;
+        for (int i = 0; i < PLACES; i++) {
+            int place = i - 1;
             String np = "(" + node + ", " + place + ")";
             same("nodeAt" + np, () -> router.nodeAt(node, place), () -> plain.nodeAt(node, place));
             same("costAt" + np, () -> router.costAt(node, place), () -> plain.costAt(node, place));
@@ -197,6 +248,7 @@ public final class RandomRuns {
     }
 
     private void askOfPair(int from, int to) {
+        haveCallsLeft(3);
         String p = "(" + from + ", " + to + ")";
         same("linkCost" + p, () -> router.linkCost(from, to), () -> plain.linkCost(from, to));
         same("memberCost" + p, () -> router.memberCost(from, to), () -> plain.memberCost(from, to));
@@ -210,18 +262,25 @@ public final class RandomRuns {
             for (int other = -1; other <= nodes; other++) askOfPair(node, other);
         }
         for (int i = 0; i < 6; i++) {
-            feed(address());
-            same("rewrite()", router::rewrite, plain::rewrite);
+            String address = address();
+            haveCallsLeft(feedsOf(address) + 1 + WORDS_OF_OUT);
+            feed(address);
+            same("rewrite()", () -> router.rewrite(), plain::rewrite);
             sameOut();
         }
+        haveCallsLeft(2);
         feed(name(NAMES.length));
-        same("lookUp()", router::lookUp, plain::lookUp);
+        same("lookUp()", () -> router.lookUp(), plain::lookUp);
     }
 
     private void run(int number) {
         seed = number * 7919L + 1;
         router = new MailRouter();
+        callsOfRouter = 0;
         plain = new PlainRouter();
+        texts = new String[] {"", "", "", ""};
+        home = "";
+        faultKnown = true;
         story = " run " + number;
         for (int change = 0; change < 8; change++) {
             change();
